@@ -408,7 +408,6 @@ public final class PromiseTests {
         Check.same("not beside one", 3, x.quietest(0));
         x.limit(3, 77);
         Check.same("not where it is above the limit", 4, x.quietest(0));
-        x.swap(1, 1);
         for (int pitch = 3; pitch < 8; pitch++) {
             x.limit(pitch, 40);
         }
@@ -416,6 +415,8 @@ public final class PromiseTests {
         Check.same("the quietest of those that are quiet enough", 0, x.quietest(0));
         x.limit(2, 120);
         Check.same("the own pitch counts, too", 0, x.quietest(2));
+        x.limit(7, 120);
+        Check.same("the quietest is not the first one", 7, x.quietest(0));
         wrongBuskers(x, "quietest", x::quietest);
         BuskPitches full = officeWith(8);
         for (int k = 0; k < 8; k++) {
@@ -437,6 +438,11 @@ public final class PromiseTests {
         Check.same("of several the lowest", 2, x.loudest());
         play(x, 2, 6);
         Check.same("two beside one another", 6, x.loudest());
+        for (int pitch = 0; pitch < 8; pitch++) {
+            BuskPitches y = officeWith(1);
+            play(y, 0, pitch);
+            Check.same("the only one", pitch, y.loudest());
+        }
     }
 
     static void promise20Strings() {
@@ -609,12 +615,29 @@ public final class PromiseTests {
         Check.same("no takings with complaints", 0, bits(x.hat(0)));
         Check.same("one plays on", 1, x.account(5));
         undone(x, "pass", () -> x.pass(5));
+        passToTheEdges();
         passTogether();
         passWithOldComplaints();
         passAtMostComplaints();
         for (int hours : new int[] {0, -1, 61, LOW, HIGH}) {
             wrong(x, "pass(" + hours + ")", RANGE, () -> x.pass(hours));
         }
+    }
+
+    /** A noise at the limit is not above it, and a wear of exactly 1.0f is enough to snap. */
+    private static void passToTheEdges() {
+        BuskPitches x = new BuskPitches();
+        x.busker(FIDDLE, 5);
+        play(x, 0, 2);
+        x.limit(2, 70);
+        Check.same("three hours at the limit", 0, x.pass(3));
+        Check.same("no complaint at the limit", 0, x.pitchOf(2, 1));
+        Check.same("snaps in one", 1, x.snapsIn(0));
+        Check.same("goes home", 1, x.pass(1));
+        Check.same("with a wear of 1.0f", bits(1.0f), x.wear(0));
+        Check.same("which counts as snapped", 1, x.account(6));
+        refused(x, "and keeps from waiting", 4, 0, () -> x.join(0));
+        Check.same("snaps in none", 0, x.snapsIn(0));
     }
 
     /** The noise of an hour is that of its beginning, also beside one who goes home in it. */
@@ -900,6 +923,7 @@ public final class PromiseTests {
         play(x, 2, 5);
         for (int hours = 0; hours < 30; hours++) {
             double sum = 0.0 + (double) x.hat(0) + (double) x.hat(1) + (double) x.hat(2);
+            x.crowd(hours == 0 ? 1 : 7);
             Check.same("the mean in hour " + hours, Double.doubleToLongBits(sum / 3.0), x.meanBits());
             x.pass(1);
         }
