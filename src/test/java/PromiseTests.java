@@ -906,6 +906,14 @@ public final class PromiseTests {
             x.pass(1 + k);
             Check.isTrue("well after " + k, x.isWell());
         }
+        BuskPitches y = officeWith(4);
+        y.limit(0, 40);
+        play(y, 3, 0);
+        y.pass(2);
+        y.answer(0);
+        y.join(1);
+        y.pass(1);
+        Check.isTrue("well with one who waits and with an answer", y.isWell());
         x.undo();
         Check.isTrue("well after undo", x.isWell());
     }
