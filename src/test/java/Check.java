@@ -38,6 +38,10 @@ final class Check {
         }
     }
 
+    static int count() {
+        return passed + failed;
+    }
+
     static void end(String tests) {
         System.out.println(tests + ": " + passed + " passed, " + failed + " failed");
         if (failed != 0 || passed == 0) {

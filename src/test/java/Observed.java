@@ -16,7 +16,8 @@ final class Observed {
         for (int pitch = 0; pitch < 8; pitch++) {
             addPitch(text, x, pitch);
         }
-        for (int busker = 0; busker < x.account(2); busker++) {
+        int buskers = x.account(2);
+        for (int busker = 0; busker < buskers; busker++) {
             addBusker(text, x, busker);
         }
         addLineAndRacks(text, x);
@@ -47,7 +48,8 @@ final class Observed {
 
     private static void addLineAndRacks(StringBuilder text, BuskPitches x) {
         text.append("| line ");
-        for (int place = 0; place < x.account(4); place++) {
+        int waiting = x.account(4);
+        for (int place = 0; place < waiting; place++) {
             text.append(x.waiting(place)).append(' ');
         }
         for (int rack = 0; rack < 2; rack++) {
