@@ -446,6 +446,11 @@ public final class BoundsTests extends OfficeTest {
         Check.same("the lower of two alike", 2, x.quietest(0));
         x.limit(2, 91);
         Check.same("less than 1.0f above the limit", 4, x.quietest(0));
+        x.limit(2, 120);
+        x.limit(7, 78);
+        Check.same("the last one, with the least noise", 7, x.quietest(0));
+        x.limit(3, 78);
+        Check.same("one between, with the least noise", 3, x.quietest(0));
     }
 
     @Says(promise = 18, value = {"- `busker`: the busker",

@@ -18,7 +18,9 @@ public final class DocumentTests {
     public static void main(String[] args) throws Exception {
         String[] sections = Files.readString(DOCUMENT).split("\n## ");
         for (String section : sections) {
-            if (section.startsWith("Terms")) {
+            if (section.startsWith("What it is")) {
+                checkQuotes(-1, section);
+            } else if (section.startsWith("Terms")) {
                 checkTerms(section);
             } else if (section.startsWith("Promise ")) {
                 checkPromise(section);
@@ -55,10 +57,19 @@ public final class DocumentTests {
         return text.replaceAll("\\s+", " ").trim();
     }
 
+    /** There are quotes, and each stands in the section. */
+    private static void checkQuotes(int promise, String section) {
+        List<String> quotes = quotes(promise);
+        Check.isTrue("promise " + promise + " has a test", !quotes.isEmpty());
+        for (String quote : quotes) {
+            Check.isTrue("in promise " + promise + ": " + quote, plain(section).contains(quote));
+        }
+    }
+
     private static void checkTerms(String section) {
+        checkQuotes(0, section);
         String left = plain(section);
         for (String quote : quotes(0)) {
-            Check.isTrue("in the terms: " + quote, plain(section).contains(quote));
             left = left.replace(quote, "|");
         }
         left = left.replaceAll("(?<=^|[| ])(" + TITLES + ")(?=$|[| ])", "").replaceAll("[| ]+", " ").trim();
@@ -67,11 +78,8 @@ public final class DocumentTests {
 
     private static void checkPromise(String section) {
         int promise = Integer.parseInt(section.replaceAll("(?s)Promise (\\d+):.*", "$1"));
+        checkQuotes(promise, section);
         List<String> quotes = quotes(promise);
-        for (String quote : quotes) {
-            Check.isTrue("in promise " + promise + ": " + quote, plain(section).contains(quote));
-        }
-        Check.isTrue("promise " + promise + " has a test", !quotes.isEmpty());
         for (String line : section.split("\n")) {
             if (line.startsWith("Throws ") || line.startsWith("Returns ") || line.startsWith("- `")) {
                 checkLine(promise, line, quotes);

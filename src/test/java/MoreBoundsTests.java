@@ -416,6 +416,14 @@ public final class MoreBoundsTests extends OfficeTest {
         }
         x.restore();
         Check.isTrue("behind restore", x.isWell());
+        BuskPitches moved = Offices.busy();
+        moved.noiseAgain(0);
+        moved.leave(2);
+        Check.isTrue("behind leave", moved.isWell());
+        moved.draw(7, 0);
+        Check.isTrue("behind draw", moved.isWell());
+        moved.swap(5, 7);
+        Check.isTrue("behind swap", moved.isWell());
     }
 
     @Says(promise = 37, value = {"Returns the mean of the hats of all buskers: their sum, by numbers, as doubles, beginning"

@@ -6,6 +6,35 @@ public final class TermsTests extends OfficeTest {
         runAll(TermsTests.class);
     }
 
+    @Says(promise = -1, value = "An object is used for at most 512 calls after it has been made;")
+    static void goodFor512Calls() {
+        BuskPitches hours = new BuskPitches();
+        for (int call = 1; call <= 511; call++) {
+            hours.pass(60);
+        }
+        Check.same("hours", 511 * 60, hours.account(0));
+        BuskPitches hat = Offices.playing(ACCORDION, 9, 0, 120);
+        hat.crowd(50);
+        float due = 0.0f;
+        // What playing takes and the three other calls here are 8 in all.
+        for (int call = 1; call <= 504; call++) {
+            hat.pass(60);
+            for (int hour = 0; hour < 60; hour++) {
+                due = due + 0.1f * 50.0f * 9.0f;
+            }
+        }
+        Check.same("hours played", 504 * 60, hat.buskerOf(0, 5));
+        Check.same("the most in a hat", bits(due), bits(hat.hat(0)));
+        Check.same("and its mean", Double.doubleToLongBits((double) due), hat.meanBits());
+        BuskPitches answered = Offices.playing(ACCORDION, 9, 0, 40);
+        for (int round = 1; round <= 169; round++) {
+            answered.pass(2);
+            Check.same("answered", 2, answered.answer(0));
+            Check.same("played by then", 2 * round, answered.buskerOf(0, 5));
+        }
+        Check.same("all answered", 338, answered.account(8));
+    }
+
     // Hours and crowd.
 
     @Says("Computations of floats are done from the left to the right, those in brackets first.")
